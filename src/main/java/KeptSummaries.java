@@ -834,7 +834,7 @@ public final class KeptSummaries {
                 } else if (step == '!') {
                     push(pop() == 0 ? 1 : 0);
                 } else if (step == '&' || step == '|') {
-                    at = afterTest(at, step, operands[at]);
+                    at = Math.max(at, afterTest(step, operands[at]) - 1);
                 } else {
                     int right = pop();
                     push(reckon(step, pop(), right));
@@ -843,14 +843,14 @@ public final class KeptSummaries {
             return refused ? 0 : pop();
         }
 
-        /** Past what no longer matters, with the test's outcome left for what follows; else on with the next one. */
-        private int afterTest(int at, int step, int target) {
+        /** Past what no longer matters, with the outcome of the test left there; NONE if the next one matters. */
+        private int afterTest(int step, int target) {
             int outcome = pop();
             if ((outcome != 0) != (step == '|')) {
-                return at;
+                return NONE;
             }
             push(outcome);
-            return Math.max(at, target - 1);
+            return target;
         }
 
         private int reckon(int step, int left, int right) {

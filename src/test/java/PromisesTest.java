@@ -271,13 +271,17 @@ public final class PromisesTest {
         due(x.summaryIs(0, 4), 2);
         x.fact(2, 0, 0, 1);
         due(x.summaryIs(0, 4), 6);
+        // An E that is refused is 0, and so is the summary.
+        law("u1/[a-a](a=5)");
+        x.fact(5, 0, 0, 1);
+        due(x.summaryIs(0, 4), 7);
         // Any x will do, and it comes before the others.
         law("x(a=1);x(a=2);u0(1=1)");
         due(x.fact(1, 0, 0, 1), -6);
         due(x.fact(2, 0, 0, 1), -6);
-        due(x.summaryIs(0, 4), 6);
-        due(x.fact(3, 0, 0, 1), 6);
         due(x.summaryIs(0, 4), 7);
+        due(x.fact(3, 0, 0, 1), 7);
+        due(x.summaryIs(0, 4), 8);
         // w is the draw: X 1, then 39022.
         begin(5);
         law("m77(w=2)");
