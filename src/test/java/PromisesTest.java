@@ -414,6 +414,11 @@ public final class PromisesTest {
         due(shape("a1=1;a1x"), -6005);
         due(x.coarse(0, 1), 0);
         due(x.count(1), 1);
+        due(shape("c0=2;c9=1"), -1006);
+        due(shape("c1=2"), 1);
+        due(x.coarse(2, 0), 0);
+        due(x.coarse(2, 1), 2);
+        summary("000:s");
         // Summaries go, the question's spans let what they let.
         due(question("c:122;a1=0-0"), 1);
         due(x.questionIs(10), 130);
@@ -723,6 +728,12 @@ public final class PromisesTest {
     }
 
     private static void coverDetails() {
+        begin(17);
+        fiveFacts();
+        summary("002:s");
+        summary("222:s");
+        question("s:222;a0=0-6");
+        due(x.coverIs(0, 3), 3);
         begin(17);
         due(x.coverIs(0, 0), -1);
         fiveFacts();
@@ -1112,6 +1123,12 @@ public final class PromisesTest {
     private static void undos() {
         begin(31);
         due(x.undo(), false);
+        x.keep();
+        x.fact(1, 1, 1, 1);
+        due(x.undo(), true);
+        due(x.count(0), 0);
+        due(x.count(3), 1);
+        begin(31);
         fiveFacts();
         summary("000:s");
         summary("222:c");

