@@ -310,6 +310,31 @@ final class AnsweringSentences extends Sentences {
             due(x.node(1), 30);
             due(x.node(0), 240);
         });
+        said("GROUPS of a node: of all FACTS.", () -> {
+            // Each side has coarse ones of its own, and what is undone is not there.
+            x.fact(7, 7, 7, 1);
+            x.keep();
+            x.fact(6, 6, 6, 1);
+            due(x.node(17), 1);
+            due(x.node(23), 1);
+            due(x.node(25), 1);
+            shape("a6=0");
+            due(x.node(17), 2);
+            due(x.node(23), 1);
+            due(x.node(25), 1);
+            shape("a6=3;b6=0");
+            due(x.node(17), 1);
+            due(x.node(23), 2);
+            due(x.node(25), 1);
+            shape("b6=3;c6=0");
+            due(x.node(17), 1);
+            due(x.node(23), 1);
+            due(x.node(25), 2);
+            x.undo();
+            due(x.node(0), 1);
+            due(x.node(25), 1);
+            due(x.price(0), 27);
+        });
         said("A node is BELOW another one if none of its LEVELS is finer.", () -> {
             for (int node = 0; node < 27; node++) {
                 int of = node;

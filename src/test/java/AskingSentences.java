@@ -79,7 +79,9 @@ final class AskingSentences extends Sentences {
             x.fact(2, 6, 0, 1);
             dueAll(what -> x.coverIs(0, what), 1, 6, 1, 2);
             x.renew(0);
+            summary("222:s");
             dueAll(what -> x.coverIs(0, what), 1, 6, 0, 3);
+            x.drop(1);
             question("s:222;b1=7-7");
             x.fact(0, 0, 0, 1);
             dueAll(what -> x.coverIs(0, what), 2, 7, 0, 0);

@@ -356,6 +356,13 @@ final class LawSentences extends Sentences {
             due(x.factIs(0, 3), 2);
             law("x(1/0=0);x(a=1)");
             due(x.fact(1, 0, 0, 50), -6);
+            // However often it was refused, nothing of it is left.
+            law("x(a=[b+[c+1/0]]|1=1);m[1+[2+3/0]](1=1);m9(1+[2+3%0]=0)");
+            due(x.draws(60), 60);
+            due(x.factIs(60, 3), 0);
+            law("x(a=7);m[1+[2+3*4]](1=1)");
+            due(x.fact(0, 0, 0, 50), 61);
+            due(x.factIs(61, 3), 15);
         });
         said("the E of it is 0.", () -> {
             due(measureBy("5/0+9"), 0);

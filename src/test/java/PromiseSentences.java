@@ -324,6 +324,10 @@ final class PromiseSentences extends Sentences {
             x.drop(0);
             due(x.undo(), true);
             due(x.count(1), 1);
+            // What the faulty one told ahead of its fault does not come with the next one.
+            due(shape("c0=1"), 1);
+            due(x.coarse(0, 0), 0);
+            due(x.coarse(2, 0), 1);
         });
         said("NONE: no such n, it has not so many (the tape stays).", () -> {
             due(x.shape(1), -1);

@@ -96,6 +96,26 @@ final class TermSentences extends Sentences {
             dueAll(value -> x.coarse(1, value), 3, 0, 1, 1, 2, 2, 3, 0);
             dueAll(i -> x.answer(i, 3), 8, 5, 9, 6);
         });
+        said("(of a VALUE as told; at first half of it, whole)", () -> {
+            // Each side has coarse ones of its own: 7 is 0 in a, 1 in b, 2 in c.
+            shape("a7=0;b7=1;c7=2");
+            eightOfEach();
+            String[] levels = {"122", "212", "221"};
+            int[][] sums = {{8, 5, 9, 6}, {1, 12, 9, 6}, {1, 5, 16, 6}};
+            for (int side = 0; side < 3; side++) {
+                question("s:" + levels[side]);
+                dueAll(i -> x.answer(i, 3), sums[side]);
+                due(summary(levels[side] + ":s"), side);
+                int of = side;
+                dueAll(i -> x.group(of, i, 3), sums[side]);
+                dueAll(i -> x.answerBy(of, i, 3), sums[side]);
+            }
+            summary("000:s");
+            for (int side = 0; side < 3; side++) {
+                question("s:" + levels[side]);
+                dueAll(i -> x.answerBy(3, i, 3), sums[side]);
+            }
+        });
         said("2 all in one (0)", () -> {
             x.fact(7, 6, 5, 1);
             x.fact(1, 2, 3, 1);
@@ -293,6 +313,18 @@ final class TermSentences extends Sentences {
             x.fact(1, 0, 0, 0);
             due(question("m:022"), 2);
             due(x.answer(1, 3), 0);
+            fresh();
+            int[] falling = {5, 9, 8, 1, 0};
+            int[] fallingMiddles = {5, 5, 8, 5, 5};
+            for (int i = 0; i < falling.length; i++) {
+                x.fact(i % 2, 0, 0, falling[i]);
+                due(answerOf("m:222"), fallingMiddles[i]);
+            }
+            // Of a group only those that the span lets: 9, 1 of the five, then 5, 8, 0.
+            due(answerOf("m:122;a0=1-1"), 1);
+            due(answerOf("d:122;a0=1-1"), 2);
+            due(answerOf("m:122;a0=0-0"), 5);
+            due(answerOf("d:122;a0=0-0"), 3);
         });
         said("m the lesser of both in the middle, of an even number.", () -> {
             for (int i = 0; i < 240; i++) {
