@@ -365,6 +365,8 @@ final class AnsweringSentences extends Sentences {
             due(x.price(3), 18 + 9 * 2);
             due(x.price(1 << 26), 1 + 26 * 3);
             due(x.price(1 + (1 << 26)), 1 + 26 * 2);
+            // Node 3 has two, and of the 18 below it 12 are below node 1, too.
+            due(x.price(2 + 8), 18 + 6 * 2 + 3 * 3);
             due(x.price(134217727), 18 + 9 * 2);
         });
         said("or of how many FACTS there are, if that is less or there is none.", () -> {

@@ -209,7 +209,8 @@ final class LawSentences extends Sentences {
                 due(holds("!a=2", a, 0, 0), a != 2);
                 due(holds("!!a=2", a, 0, 0), a == 2);
                 due(holds("!!!a=2", a, 0, 0), a != 2);
-                due(holds("!a=2&a<9", a, 0, 0), a != 2);
+                due(holds("!a=2&a<3", a, 0, 0), a == 1);
+                due(holds("!a=2|a<3", a, 0, 0), true);
                 due(holds("!(a=2|a=3)", a, 0, 0), a == 1);
                 due(holds("(a=1|a=2)&!a=1", a, 0, 0), a == 2);
                 due(holds("((a=1))|(a=2)", a, 0, 0), a < 3);
@@ -266,13 +267,13 @@ final class LawSentences extends Sentences {
 
     private void letters() {
         said("a, b, c the FACT's VALUES, m its MEASURE,", () -> {
-            law("ma*10+b(c=0);mc*10+a(b=7);mm/2(b=6)");
+            law("ma*10+b(c=0);mc*10+a(b=7);mm-1(b=6)");
             x.fact(7, 5, 0, 1);
             due(x.factIs(0, 3), 75);
             x.fact(4, 7, 7, 1);
             due(x.factIs(1, 3), 74);
             x.fact(4, 6, 7, 99);
-            due(x.factIs(2, 3), 49);
+            due(x.factIs(2, 3), 98);
             x.fact(4, 6, 7, 1);
             due(x.factIs(3, 3), 0);
         });

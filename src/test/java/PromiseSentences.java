@@ -242,6 +242,12 @@ final class PromiseSentences extends Sentences {
             due(x.fact(1, 0, 0, 5), 0);
             due(x.factIs(0, 3), 5);
             due(x.fact(2, 0, 0, 5), -6);
+            for (int a = 3; a < 7; a++) {
+                due(law("x(a=" + a + ")"), 1);
+                due(x.count(5), 1);
+                due(x.fact(a, 0, 0, 5), -6);
+                due(x.fact(a - 1, 0, 0, 5), a - 2);
+            }
         });
         said("how many RULES", () -> {
             String text = "x(a=1)";
@@ -313,8 +319,10 @@ final class PromiseSentences extends Sentences {
             summary("111:s");
             question("s:111");
             x.keep();
-            due(shape("a0=3;b0=4"), -1008);
-            due(shape("a0=3;a0=3"), -6005);
+            due(shape("b5=0;b0=4"), -1008);
+            due(x.coarse(1, 5), 2);
+            due(shape("c3=3;c3=3"), -6005);
+            due(x.coarse(2, 3), 1);
             due(shape("?"), -1000);
             due(x.coarse(0, 0), 0);
             due(x.count(1), 1);
@@ -325,8 +333,11 @@ final class PromiseSentences extends Sentences {
             due(x.undo(), true);
             due(x.count(1), 1);
             // What the faulty one told ahead of its fault does not come with the next one.
+            due(shape("b6=1;a7=9"), -1008);
             due(shape("c0=1"), 1);
-            due(x.coarse(0, 0), 0);
+            due(x.coarse(1, 6), 3);
+            due(x.coarse(1, 5), 2);
+            due(x.coarse(2, 3), 1);
             due(x.coarse(2, 0), 1);
         });
         said("NONE: no such n, it has not so many (the tape stays).", () -> {
